@@ -558,7 +558,7 @@ public final class ChordHerds {
         }
     }
 
-    /** The TOKENS of a text, up to its end or to the first that is none. */
+    /** The TOKENS of a text, up to its end, to the first that is none, or to more than can stand there. */
     private static final class Reader {
         static final int END = 0;
         static final int BAD = 1;
@@ -566,11 +566,15 @@ public final class ChordHerds {
         static final int NUMBER = 3;
         static final int STOP = 4;
 
+        /** Those of all lines that a VALLEY can have; one more is its END, or can't stand there. */
+        static final int TOKENS_MOST =
+            3 * HERDS_MOST + 9 * BEASTS_MOST + 7 * STRANGERS_MOST + 5 * EARS_MOST + 4 * BESIDES_MOST + 1;
+
         int many;
-        final byte[] sorts = new byte[TAPE_MOST + 1];
-        final int[] places = new int[TAPE_MOST + 1];
+        final int[] sorts = new int[TOKENS_MOST];
+        final int[] places = new int[TOKENS_MOST];
         /** Words as their bytes, the first highest: eight letters just fill a long. */
-        final long[] values = new long[TAPE_MOST + 1];
+        final long[] values = new long[TOKENS_MOST];
         private final byte[] text;
         private int length;
         private int at;
@@ -584,11 +588,11 @@ public final class ChordHerds {
             at = 0;
             many = 0;
             int sort = WORD;
-            while (sort != END && sort != BAD && many <= TAPE_MOST) {
+            while (sort != END && sort != BAD && many < TOKENS_MOST) {
                 skipBlanks();
                 places[many] = at;
                 sort = readToken();
-                sorts[many] = (byte) sort;
+                sorts[many] = sort;
                 many++;
             }
         }
@@ -844,7 +848,7 @@ public final class ChordHerds {
             return take(Reader.NUMBER) && (value >= least && value <= most || refuse(CANT_BE));
         }
 
-        /** The Reader's last TOKEN is its END or BAD: none but a refused one stands behind it. */
+        /** The Reader's last TOKEN is always refused, so there is a next one. */
         private boolean take(int sort) {
             if (next >= reader.many) {
                 return refuse(CANT_STAND);
@@ -1007,6 +1011,17 @@ public final class ChordHerds {
             return (tonesAt[ear] >> tone & 1) == 1;
         }
 
+        /** Whether all asked of a TONE can still be so, if at most the rest comes to the sum. */
+        boolean canBe(int tone, int[] sum, int[] rest) {
+            for (int ear = 0; ear < EARS_MOST; ear++) {
+                int at = ear * TONES + tone;
+                if (has(ear, tone) && (sum[at] > most[at] || sum[at] + rest[at] < least[at])) {
+                    return false;
+                }
+            }
+            return true;
+        }
+
         /** Asked only of what it has. */
         boolean allow(int ear, int tone, int loud) {
             int at = ear * TONES + tone;
@@ -1015,8 +1030,9 @@ public final class ChordHerds {
     }
 
     /**
-     * SETS. BELLS of a TONE without a SOUND are left out of the search: they are free to ring
-     * or not in each set, so they double the number of sets and are neither SURE nor QUIET.
+     * SETS, chosen BELL by BELL at each PLACE, left as soon as a SOUND can't be so any more.
+     * BELLS of a TONE without a SOUND are left out: they are free to ring or not in each set,
+     * so they double the number of sets and are neither SURE nor QUIET.
      */
     private static final class Sets {
         int many;
@@ -1025,132 +1041,122 @@ public final class ChordHerds {
         int places;
         int leastPlace;
         int greatestPlace;
-        private int some;
-        private int round;
-        /** The round in which a set was last found, so that no call has to clear it. */
-        private final int[] seen = new int[SETS_MOST];
-        private final int[] found = new int[SETS_MOST];
-        private final int[] part = new int[SETS_MOST];
-        private final int[] partLoud = new int[SETS_MOST];
+        private int bells;
+        private int ears;
+        /** BELLS as bits of a TONE with a SOUND. */
+        private int asked;
+        private int askedSets;
+        private boolean foundHere;
+        /** The TONE of each BELL. */
+        private final int[] tones = new int[BELLS_MOST];
+        /** How LOUD each BELL is at each EAR. */
+        private final int[] louds = new int[BELLS_MOST * EARS_MOST];
+        /** What is chosen so far, of each TONE at each EAR. */
+        private final int[] sum = new int[EARS_MOST * TONES];
+        /** What may still come, of each TONE at each EAR. */
+        private final int[] rest = new int[EARS_MOST * TONES];
+        private final int[] seen = new int[SETS_MOST / 32];
 
         void seek(Valley valley, Bounds bounds, int wind) {
-            begin();
+            begin(valley, bounds);
             for (int place = 0; place <= PLACE_MOST; place++) {
-                int here = findAt(place, wind, valley, bounds);
-                if (here > 0) {
+                weigh(valley, place, wind);
+                foundHere = false;
+                if (anyCanBe(bounds)) {
+                    choose(0, 0, bounds);
+                }
+                if (foundHere) {
                     places++;
                     leastPlace = leastPlace == NONE ? place : leastPlace;
                     greatestPlace = place;
-                    gather(here);
                 }
             }
-            int free = 0;
-            int asked = 0;
-            for (int bell = 0; bell < valley.bells; bell++) {
-                if ((bounds.tones >> valley.tones[bell] & 1) == 1) {
-                    asked |= 1 << bell;
-                } else {
-                    free++;
-                }
+            if (many == 0) {
+                sure = 0;
+                quiet = 0;
             }
-            sure = many == 0 ? 0 : sure;
-            quiet = many == 0 ? 0 : asked & ~some;
-            many <<= free;
+            many <<= bells - Integer.bitCount(asked);
         }
 
-        private void begin() {
+        private void begin(Valley valley, Bounds bounds) {
+            bells = valley.bells;
+            ears = valley.ears;
+            asked = 0;
+            for (int bell = 0; bell < bells; bell++) {
+                tones[bell] = valley.tones[bell];
+                asked |= (bounds.tones >> tones[bell] & 1) << bell;
+            }
+            askedSets = 1 << Integer.bitCount(asked);
             many = 0;
-            sure = SETS_MOST - 1;
-            some = 0;
+            sure = asked;
+            quiet = asked;
             places = 0;
             leastPlace = NONE;
             greatestPlace = NONE;
-            round++;
+            Arrays.fill(sum, 0);
+            Arrays.fill(seen, 0);
         }
 
-        private void gather(int here) {
-            for (int i = 0; i < here; i++) {
-                int set = found[i];
-                if (seen[set] != round) {
-                    seen[set] = round;
-                    many++;
-                    sure &= set;
-                    some |= set;
-                }
-            }
-        }
-
-        /** SOUNDS of unlike TONES ask of unlike BELLS: what fits each joins freely. */
-        private int findAt(int place, int wind, Valley valley, Bounds bounds) {
-            found[0] = 0;
-            int here = 1;
-            for (int tone = 0; tone < TONES && here > 0; tone++) {
-                if ((bounds.tones >> tone & 1) == 1) {
-                    int parts = listParts(tone, valley);
-                    for (int ear = 0; ear < valley.ears; ear++) {
-                        if (bounds.has(ear, tone)) {
-                            weighParts(tone, ear, place, wind, valley);
-                            sift(parts, tone, ear, bounds);
-                        }
-                    }
-                    here = join(here, parts);
-                }
-            }
-            return here;
-        }
-
-        private int listParts(int tone, Valley valley) {
-            part[0] = 0;
-            int parts = 1;
-            for (int bell = 0; bell < valley.bells; bell++) {
-                if (valley.tones[bell] == tone) {
-                    for (int i = 0; i < parts; i++) {
-                        part[parts + i] = part[i] | 1 << bell;
-                    }
-                    parts *= 2;
-                }
-            }
-            return parts;
-        }
-
-        /** In the order of listParts, so that both rows tell of the same part. */
-        private void weighParts(int tone, int ear, int place, int wind, Valley valley) {
-            partLoud[0] = 0;
-            int parts = 1;
-            for (int bell = 0; bell < valley.bells; bell++) {
-                if (valley.tones[bell] == tone) {
+        private void weigh(Valley valley, int place, int wind) {
+            Arrays.fill(rest, 0);
+            for (int bell = 0; bell < bells; bell++) {
+                for (int ear = 0; ear < ears; ear++) {
                     int loud = valley.loudAt(bell, ear, place, wind);
-                    for (int i = 0; i < parts; i++) {
-                        partLoud[parts + i] = partLoud[i] + loud;
-                    }
-                    parts *= 2;
+                    louds[bell * EARS_MOST + ear] = loud;
+                    rest[ear * TONES + tones[bell]] += loud;
                 }
             }
         }
 
-        private void sift(int parts, int tone, int ear, Bounds bounds) {
-            for (int i = 0; i < parts; i++) {
-                if (!bounds.allow(ear, tone, partLoud[i])) {
-                    part[i] = NONE;
+        /** This alone looks at SOUNDS of TONES that no BELL has. */
+        private boolean anyCanBe(Bounds bounds) {
+            for (int tone = 0; tone < TONES; tone++) {
+                if (!bounds.canBe(tone, sum, rest)) {
+                    return false;
                 }
+            }
+            return true;
+        }
+
+        private void choose(int bell, int set, Bounds bounds) {
+            if (foundHere && many == askedSets) {
+                return;
+            }
+            if (bell >= bells) {
+                keep(set);
+                return;
+            }
+            if ((asked >> bell & 1) == 0) {
+                choose(bell + 1, set, bounds);
+                return;
+            }
+            add(bell, -1, rest);
+            if (bounds.canBe(tones[bell], sum, rest)) {
+                choose(bell + 1, set, bounds);
+            }
+            add(bell, 1, sum);
+            if (bounds.canBe(tones[bell], sum, rest)) {
+                choose(bell + 1, set | 1 << bell, bounds);
+            }
+            add(bell, -1, sum);
+            add(bell, 1, rest);
+        }
+
+        private void add(int bell, int times, int[] to) {
+            for (int ear = 0; ear < ears; ear++) {
+                to[ear * TONES + tones[bell]] += times * louds[bell * EARS_MOST + ear];
             }
         }
 
-        private int join(int here, int parts) {
-            int fit = 0;
-            for (int i = 0; i < parts; i++) {
-                if (part[i] != NONE) {
-                    part[fit] = part[i];
-                    fit++;
-                }
+        private void keep(int set) {
+            foundHere = true;
+            int bit = 1 << (set & 31);
+            if ((seen[set >> 5] & bit) == 0) {
+                seen[set >> 5] |= bit;
+                many++;
+                sure &= set;
+                quiet &= ~set;
             }
-            // from the last part down, for the first one writes over the sets that all start from
-            for (int p = fit - 1; p >= 0; p--) {
-                for (int i = 0; i < here; i++) {
-                    found[p * here + i] = found[i] | part[p];
-                }
-            }
-            return here * fit;
         }
     }
 
@@ -1259,7 +1265,9 @@ public final class ChordHerds {
 
         int leastTogether(int[] best) {
             least = CREEP_MOST * SEARCH_MOST + 1;
-            seekLeast(0, 0, best);
+            if (countNotTooMany() == evenings) {
+                seekLeast(0, 0, best);
+            }
             return least > CREEP_MOST * SEARCH_MOST ? NONE : least;
         }
 
@@ -1269,10 +1277,8 @@ public final class ChordHerds {
                 return;
             }
             if (depth >= beasts) {
-                if (countSo(depth, evenings) == evenings) {
-                    least = together;
-                    System.arraycopy(tried, 0, best, 0, beasts);
-                }
+                least = together;
+                System.arraycopy(tried, 0, best, 0, beasts);
                 return;
             }
             for (int creep = 0; creep <= CREEP_MOST; creep++) {
@@ -1285,7 +1291,7 @@ public final class ChordHerds {
 
         int firstThatCant() {
             farthest = NONE;
-            seekFarthest(0, evenings);
+            seekFarthest(0, countNotTooMany());
             return within(farthest, 0, evenings - 1) ? number[farthest] : NONE;
         }
 
@@ -1295,7 +1301,7 @@ public final class ChordHerds {
                 return;
             }
             if (depth >= beasts) {
-                farthest = Math.max(farthest, countSo(depth, reach));
+                farthest = reach;
                 return;
             }
             for (int creep = 0; creep <= CREEP_MOST; creep++) {
@@ -1303,28 +1309,32 @@ public final class ChordHerds {
             }
         }
 
-        /** Adds a BEAST to the EVENINGS ahead of reach: how many, up to the first where it wasn't heard. */
+        /**
+         * Adds a BEAST to the EVENINGS ahead of reach: how many, up to the first where it wasn't heard
+         * or that now has more TONES left than BEASTS are. With the last BEAST just those that are so stay.
+         */
         private int ring(int depth, int creep, int reach) {
             int from = depth * ENTRIES_MOST;
             int to = from + ENTRIES_MOST;
+            int left = beasts - depth - 1;
             for (int i = 0; i < reach; i++) {
                 int tone = 1 << Math.floorMod(told[depth] - creep * year[i], TONES);
-                if ((tones[i] & tone) == 0) {
+                int both = given[from + i] | tone;
+                if ((tones[i] & tone) == 0 || Integer.bitCount(tones[i] & ~both) > left) {
                     return i;
                 }
-                given[to + i] = given[from + i] | tone;
+                given[to + i] = both;
             }
             return reach;
         }
 
-        private int countSo(int depth, int reach) {
-            int from = depth * ENTRIES_MOST;
-            for (int i = 0; i < reach; i++) {
-                if (given[from + i] != tones[i]) {
-                    return i;
-                }
+        /** As ring counts, ahead of the first BEAST. */
+        private int countNotTooMany() {
+            int i = 0;
+            while (i < evenings && Integer.bitCount(tones[i]) <= beasts) {
+                i++;
             }
-            return reach;
+            return i;
         }
     }
 

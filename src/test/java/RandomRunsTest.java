@@ -53,7 +53,7 @@ public final class RandomRunsTest {
         for (int i = 0; i < herds; i++) {
             text.append("herd ").append((char) ('h' + i)).append(';');
         }
-        int beasts = chance.nextInt(20) == 0 ? 9 : chance.nextInt(7);
+        int beasts = chance.nextInt(20) == 0 ? 7 + chance.nextInt(3) : chance.nextInt(7);
         int strangers = chance.nextInt(3);
         int tones = 1 + chance.nextInt(12);
         int louds = chance.nextInt(3) == 0 ? 99 : 12;
@@ -164,7 +164,8 @@ public final class RandomRunsTest {
         int quarter = up(chance.nextInt(4) == 0 ? 95 : 2);
         int ear = some(ears);
         int tone = up(chance.nextInt(3) == 0 ? 11 : 2);
-        switch (chance.nextInt(6)) {
+        switch (chance.nextInt(7)) {
+            case 6 -> noteAll(at, quarter);
             case 0, 1 -> {
                 int least = up(20);
                 int most = least + up(15);
@@ -183,6 +184,18 @@ public final class RandomRunsTest {
                 int by = up(2);
                 Check.due(at + "later", x.later(by), plain.later(by));
                 time = plain.about(8);
+            }
+        }
+    }
+
+    /** All that is heard somewhere: this leaves few PLACES and sets. */
+    private void noteAll(String at, int quarter) {
+        int by = chance.nextInt(3);
+        for (int ear = 0; ear < ears; ear++) {
+            for (int tone = 0; tone < 12; tone++) {
+                if (plain.hear(ear, tone) > 0) {
+                    Check.due(at + "note", x.note(quarter, ear, tone, by), plain.note(quarter, ear, tone, by));
+                }
             }
         }
     }

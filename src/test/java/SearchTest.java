@@ -10,6 +10,7 @@ public final class SearchTest {
     public static void main(String[] args) {
         setsOfOneSound();
         setsOfTwoEars();
+        setsOneBehindAnother();
         setsWithoutSounds();
         setsThatCantBe();
         partedHerds();
@@ -18,6 +19,7 @@ public final class SearchTest {
         strangerCameWrong();
         crackedBells();
         firstEvening();
+        fortyEveningsOfEight();
         dealtForOne();
         dealtForTwo();
         freshBells();
@@ -57,6 +59,19 @@ public final class SearchTest {
         x.sound(0, 1, 4, 2, 999);
         // at 4 c is 2 loud at the second EAR, t is 0
         dueSets(x, 0, 0, 2, 9, 6, 1, 4, 4);
+    }
+
+    private static void setsOneBehindAnother() {
+        ChordHerds x = Check.told("herd h;beast a of h bell 0 loud 3;beast b of h bell 0 loud 10;ear e at 0;", 2);
+        x.sound(0, 0, 0, 10, 10);
+        x.sound(1, 0, 0, 0, 20);
+        x.sound(2, 0, 0, 13, 13);
+        for (int i = 0; i < 3; i++) {
+            dueSets(x, 0, 0, 1, 2, 1, 1, 0, 0);
+            dueSets(x, 1, 0, 4, 0, 0, 100, 0, 99);
+            dueSets(x, 2, 0, 1, 3, 0, 1, 0, 0);
+            dueSets(x, 2, 1, 0, 0, 0, 0, -1, -1);
+        }
     }
 
     private static void setsWithoutSounds() {
@@ -243,6 +258,27 @@ public final class SearchTest {
         Check.due("no TONES of no BEASTS", y.first(0), -1);
         y.evening(3, 1);
         Check.due("a TONE of no BEASTS", y.first(0), 1);
+    }
+
+    private static void fortyEveningsOfEight() {
+        ChordHerds x = herd(1, 2, 3, 4, 5, 6, 7, 8);
+        for (int i = 0; i < 40; i++) {
+            Check.due("evening", x.evening(i % 12 == 0 ? 0 : 12, 1), i);
+        }
+        Check.due("cracked by 40 EVENINGS", x.cracked(0), 0);
+        dueRow(x, 0, 0, 0, 0, 0, 0, 0, 0);
+        Check.due("first of 40 EVENINGS", x.first(0), -1);
+        ChordHerds y = herd(1, 2, 3, 4, 5, 6, 7, 8);
+        for (int i = 0; i < 39; i++) {
+            y.evening(1 + i % 5, 1 << (10 - 2 * (i % 5)));
+        }
+        Check.due("all by 2", y.cracked(0), 16);
+        dueRow(y, 2, 2, 2, 2, 2, 2, 2, 2);
+        Check.due("first of 39 EVENINGS", y.first(0), -1);
+        y.evening(20, 1);
+        Check.due("the last can't be", y.first(0), 39);
+        Check.due("cracked with it", y.cracked(0), -1);
+        dueRow(y);
     }
 
     private static ChordHerds herd(int... louds) {

@@ -10,6 +10,8 @@ public final class ValleyTest {
         endCutsTheTape();
         valleyBeginsAnew();
         faultLeavesAll();
+        nothingIsLeftOfTheValleyBefore();
+        bytesCutOffAreGone();
         tokens();
         wordsThatCantStand();
         tooManyOfASort();
@@ -151,6 +153,45 @@ public final class ValleyTest {
         Check.due("fault(1) of a good one", x.fault(1), -1);
     }
 
+    private static void nothingIsLeftOfTheValleyBefore() {
+        ChordHerds x = new ChordHerds();
+        String other = "herd h;herd g;beast b of g bell 5 loud 5;beast a of h bell 0 loud 10;ear e at 0;ear f at 0;";
+        for (int i = 0; i < 4; i++) {
+            Check.tape(x, besides(20));
+            Check.due("valley() of many", x.valley(), 9);
+            Check.due("FAULT of many", x.fault(0), 0);
+            Check.due("each beside some", x.fresh(50, 2) != ChordHerds.NONE, true);
+            for (int again = 0; again <= i % 2; again++) {
+                Check.tape(x, other);
+                Check.due("valley() of few", x.valley(), 2);
+            }
+            Check.due("nobody beside: 6 from 5", x.fresh(50, 1), 11);
+            x.spring(0, 0, 1, 0, 0);
+            Check.due("b here", x.sound(0, 0, 5, 5, 5), 0);
+            Check.due("a there", x.sound(0, 1, 0, 10, 10), 1);
+            Check.due("none of few is MIXED", x.parted(0, 3, 0), 0);
+            Check.due("the least set", x.parted(0, 4, 0), 1);
+        }
+    }
+
+    private static void bytesCutOffAreGone() {
+        String[] longer = {"ear e at 12345;", "ear e at 1x", "ear e at 1;"};
+        for (String text : longer) {
+            ChordHerds x = new ChordHerds();
+            Check.tape(x, text);
+            x.end(10);
+            Check.due("valley()", x.valley(), -1);
+            Check.due("fault(0)", x.fault(0), 2);
+            Check.due("fault(1)", x.fault(1), 10);
+        }
+        ChordHerds y = new ChordHerds();
+        Check.tape(y, "herd herdsmansway");
+        y.end(9);
+        y.valley();
+        Check.due("herd, not more", y.fault(0), 2);
+        Check.due("its place", y.fault(1), 5);
+    }
+
     private static void tokens() {
         Check.faulty("", 0, -1);
         Check.faulty(" \n ", 0, -1);
@@ -242,9 +283,17 @@ public final class ValleyTest {
     }
 
     private static void mostOfEachSort() {
-        ChordHerds x = Check.told("herd i;herd j;" + besides(20)
+        String text = "herd i;herd j;" + besides(20)
             + "stranger s bell 11 loud 99;stranger t bell 0 loud 1;"
-            + "ear a at 0;ear b at 99;ear c at 1;ear d at 0;", 11);
+            + "ear a at 0;ear b at 99;ear c at 1;ear d at 0;";
+        Check.faulty(text + "$", 1, text.length());
+        Check.faulty(text + " a", 2, text.length() + 1);
+        Check.faulty(text + "12345", 1, text.length());
+        String[] first = {"herd", "beast", "stranger", "ear", "beside"};
+        for (String word : first) {
+            Check.faulty(text + word + " z", 2, text.length());
+        }
+        ChordHerds x = Check.told(text + " \n", 11);
         Check.due("HERDS", x.about(0), 3);
         Check.due("BEASTS", x.about(1), 9);
         Check.due("STRANGERS", x.about(2), 2);
