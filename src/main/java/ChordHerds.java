@@ -22,6 +22,7 @@ public final class ChordHerds {
     private static final int EARS_MOST = 4;
     private static final int BESIDES_MOST = 20;
     private static final int SETS_MOST = 1 << BELLS_MOST;
+    private static final int WORD_BITS = 32;
     private static final int TONES = 12;
     private static final int ALL_TONES = (1 << TONES) - 1;
     private static final int PLACE_MOST = 99;
@@ -980,11 +981,15 @@ public final class ChordHerds {
         int tones;
         /** The same for each EAR. */
         final int[] tonesAt = new int[EARS_MOST];
+        /** EARS that have a SOUND. */
+        int earsMany;
+        final int[] ears = new int[EARS_MOST];
         private final int[] least = new int[EARS_MOST * TONES];
         private final int[] most = new int[EARS_MOST * TONES];
 
         void gather(Entries entries, int quarter, int k) {
             tones = 0;
+            earsMany = 0;
             Arrays.fill(tonesAt, 0);
             for (int entry = 0; entry < entries.many; entry++) {
                 if (entries.isSound(entry) && entries.when[entry] == quarter && entries.counts(entry, k)) {
@@ -997,6 +1002,10 @@ public final class ChordHerds {
             int ear = entries.ear[entry];
             int tone = entries.tones[entry];
             int at = ear * TONES + tone;
+            if (tonesAt[ear] == 0 && earsMany < EARS_MOST) {
+                ears[earsMany] = ear;
+                earsMany++;
+            }
             if (!has(ear, tone)) {
                 least[at] = 0;
                 most[at] = HEARD_MOST;
@@ -1013,9 +1022,9 @@ public final class ChordHerds {
 
         /** Whether all asked of a TONE can still be so, if at most the rest comes to the sum. */
         boolean canBe(int tone, int[] sum, int[] rest) {
-            for (int ear = 0; ear < EARS_MOST; ear++) {
-                int at = ear * TONES + tone;
-                if (has(ear, tone) && (sum[at] > most[at] || sum[at] + rest[at] < least[at])) {
+            for (int i = 0; i < earsMany; i++) {
+                int at = ears[i] * TONES + tone;
+                if (has(ears[i], tone) && (sum[at] > most[at] || sum[at] + rest[at] < least[at])) {
                     return false;
                 }
             }
@@ -1030,7 +1039,8 @@ public final class ChordHerds {
     }
 
     /**
-     * SETS, chosen BELL by BELL at each PLACE, left as soon as a SOUND can't be so any more.
+     * SETS, chosen BELL by BELL at each PLACE, left as soon as a SOUND can't be so any more, or
+     * when this PLACE has a set and all sets that could follow were found at others.
      * BELLS of a TONE without a SOUND are left out: they are free to ring or not in each set,
      * so they double the number of sets and are neither SURE nor QUIET.
      */
@@ -1041,26 +1051,24 @@ public final class ChordHerds {
         int places;
         int leastPlace;
         int greatestPlace;
-        private int bells;
-        private int ears;
-        /** BELLS as bits of a TONE with a SOUND. */
-        private int asked;
-        private int askedSets;
         private boolean foundHere;
-        /** The TONE of each BELL. */
+        /** How many BELLS are asked, and for each depth of the choice which one and its TONE. */
+        private int asked;
+        private final int[] bells = new int[BELLS_MOST];
         private final int[] tones = new int[BELLS_MOST];
-        /** How LOUD each BELL is at each EAR. */
+        /** How LOUD each of them is at each EAR. */
         private final int[] louds = new int[BELLS_MOST * EARS_MOST];
         /** What is chosen so far, of each TONE at each EAR. */
         private final int[] sum = new int[EARS_MOST * TONES];
         /** What may still come, of each TONE at each EAR. */
         private final int[] rest = new int[EARS_MOST * TONES];
-        private final int[] seen = new int[SETS_MOST / 32];
+        /** A bit for each set; those that go on from one choice lie side by side. */
+        private final int[] seen = new int[SETS_MOST / WORD_BITS];
 
         void seek(Valley valley, Bounds bounds, int wind) {
             begin(valley, bounds);
             for (int place = 0; place <= PLACE_MOST; place++) {
-                weigh(valley, place, wind);
+                weigh(valley, bounds, place, wind);
                 foundHere = false;
                 if (anyCanBe(bounds)) {
                     choose(0, 0, bounds);
@@ -1071,25 +1079,23 @@ public final class ChordHerds {
                     greatestPlace = place;
                 }
             }
-            if (many == 0) {
-                sure = 0;
-                quiet = 0;
-            }
-            many <<= bells - Integer.bitCount(asked);
+            sure = many == 0 ? 0 : spread(sure);
+            quiet = many == 0 ? 0 : spread(quiet);
+            many <<= valley.bells - asked;
         }
 
         private void begin(Valley valley, Bounds bounds) {
-            bells = valley.bells;
-            ears = valley.ears;
             asked = 0;
-            for (int bell = 0; bell < bells; bell++) {
-                tones[bell] = valley.tones[bell];
-                asked |= (bounds.tones >> tones[bell] & 1) << bell;
+            for (int bell = 0; bell < valley.bells; bell++) {
+                if ((bounds.tones >> valley.tones[bell] & 1) == 1) {
+                    bells[asked] = bell;
+                    tones[asked] = valley.tones[bell];
+                    asked++;
+                }
             }
-            askedSets = 1 << Integer.bitCount(asked);
             many = 0;
-            sure = asked;
-            quiet = asked;
+            sure = -1;
+            quiet = -1;
             places = 0;
             leastPlace = NONE;
             greatestPlace = NONE;
@@ -1097,14 +1103,14 @@ public final class ChordHerds {
             Arrays.fill(seen, 0);
         }
 
-        private void weigh(Valley valley, int place, int wind) {
+        private void weigh(Valley valley, Bounds bounds, int place, int wind) {
             Arrays.fill(rest, 0);
-            for (int bell = 0; bell < bells; bell++) {
-                for (int ear = 0; ear < ears; ear++) {
-                    int loud = valley.loudAt(bell, ear, place, wind);
-                    louds[bell * EARS_MOST + ear] = loud;
-                    rest[ear * TONES + tones[bell]] += loud;
+            for (int depth = 0; depth < asked; depth++) {
+                for (int i = 0; i < bounds.earsMany; i++) {
+                    int ear = bounds.ears[i];
+                    louds[depth * EARS_MOST + ear] = valley.loudAt(bells[depth], ear, place, wind);
                 }
+                add(depth, 1, rest, bounds);
             }
         }
 
@@ -1118,45 +1124,63 @@ public final class ChordHerds {
             return true;
         }
 
-        private void choose(int bell, int set, Bounds bounds) {
-            if (foundHere && many == askedSets) {
+        /** The BELL chosen last is the lowest bit of the set. */
+        private void choose(int depth, int set, Bounds bounds) {
+            if (foundHere && allSeen(depth, set)) {
                 return;
             }
-            if (bell >= bells) {
+            if (depth >= asked) {
                 keep(set);
                 return;
             }
-            if ((asked >> bell & 1) == 0) {
-                choose(bell + 1, set, bounds);
-                return;
+            add(depth, -1, rest, bounds);
+            if (bounds.canBe(tones[depth], sum, rest)) {
+                choose(depth + 1, set << 1, bounds);
             }
-            add(bell, -1, rest);
-            if (bounds.canBe(tones[bell], sum, rest)) {
-                choose(bell + 1, set, bounds);
+            add(depth, 1, sum, bounds);
+            if (bounds.canBe(tones[depth], sum, rest)) {
+                choose(depth + 1, set << 1 | 1, bounds);
             }
-            add(bell, 1, sum);
-            if (bounds.canBe(tones[bell], sum, rest)) {
-                choose(bell + 1, set | 1 << bell, bounds);
-            }
-            add(bell, -1, sum);
-            add(bell, 1, rest);
+            add(depth, -1, sum, bounds);
+            add(depth, 1, rest, bounds);
         }
 
-        private void add(int bell, int times, int[] to) {
-            for (int ear = 0; ear < ears; ear++) {
-                to[ear * TONES + tones[bell]] += times * louds[bell * EARS_MOST + ear];
+        private void add(int depth, int times, int[] to, Bounds bounds) {
+            for (int i = 0; i < bounds.earsMany; i++) {
+                int ear = bounds.ears[i];
+                to[ear * TONES + tones[depth]] += times * louds[depth * EARS_MOST + ear];
             }
+        }
+
+        /** Whether all sets that go on from this one were found; if they fill more than a word: whether all were. */
+        private boolean allSeen(int depth, int set) {
+            int left = asked - depth;
+            if (1 << left > WORD_BITS) {
+                return many == 1 << asked;
+            }
+            int from = set << left;
+            int bits = -1 >>> WORD_BITS - (1 << left) << from % WORD_BITS;
+            return (seen[from / WORD_BITS] & bits) == bits;
         }
 
         private void keep(int set) {
             foundHere = true;
-            int bit = 1 << (set & 31);
-            if ((seen[set >> 5] & bit) == 0) {
-                seen[set >> 5] |= bit;
+            int bit = 1 << set % WORD_BITS;
+            if ((seen[set / WORD_BITS] & bit) == 0) {
+                seen[set / WORD_BITS] |= bit;
                 many++;
                 sure &= set;
                 quiet &= ~set;
             }
+        }
+
+        /** A set as chosen, as bits by the numbers of BELLS. */
+        private int spread(int set) {
+            int spread = 0;
+            for (int depth = 0; depth < asked; depth++) {
+                spread |= (set >> asked - 1 - depth & 1) << bells[depth];
+            }
+            return spread;
         }
     }
 

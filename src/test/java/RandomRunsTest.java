@@ -20,6 +20,9 @@ public final class RandomRunsTest {
         for (int run = 0; run < runs; run++) {
             new RandomRunsTest(run).go(run);
         }
+        for (int run = 0; run < runs / 50; run++) {
+            new RandomRunsTest(run).setsOfEleven("sets of eleven " + run + " ");
+        }
         Check.finish("RandomRunsTest");
     }
 
@@ -30,6 +33,27 @@ public final class RandomRunsTest {
                 tell(at + i + " ");
             }
             call(at + i + " ");
+        }
+    }
+
+    /** As many BELLS as can be, of few TONES, with wide and narrow SOUNDS: then sets are many. */
+    private void setsOfEleven(String at) {
+        int tones = 1 + chance.nextInt(3);
+        StringBuilder text = new StringBuilder("herd h;ear e at 0;ear f at 60;");
+        for (int i = 0; i < 11; i++) {
+            text.append(i % 5 == 3 ? "stranger " : "beast ").append((char) ('a' + i)).append(i % 5 == 3 ? "" : " of h");
+            text.append(" bell ").append(chance.nextInt(tones)).append(" loud ").append(1 + chance.nextInt(99)).append(';');
+        }
+        tell(at, text.toString());
+        for (int i = 0; i <= tones; i++) {
+            int ear = chance.nextInt(2);
+            int least = chance.nextInt(chance.nextBoolean() ? 3 : 200);
+            int most = Math.min(999, least + chance.nextInt(chance.nextBoolean() ? 20 : 900));
+            Check.due(at + "sound", x.sound(0, ear, i % 3, least, most), plain.sound(0, ear, i % 3, least, most));
+        }
+        int wind = chance.nextInt(6);
+        for (int what = 0; what < 6; what++) {
+            Check.due(at + what, x.sets(0, wind, what, 0), plain.sets(0, wind, what, 0));
         }
     }
 
@@ -100,25 +124,29 @@ public final class RandomRunsTest {
         int tries = chance.nextInt(4) == 0 ? 3 : 1;
         for (int i = 0; i < tries; i++) {
             String text = i + 1 < tries || chance.nextInt(3) == 0 ? spoiled(text()) : text();
-            Check.due(at + "end(0)", x.end(0), plain.end(0));
-            byte[] bytes = new byte[(text.length() + 19) / 20 * 20];
-            for (int b = 0; b < text.length(); b++) {
-                bytes[b] = (byte) text.charAt(b);
-            }
-            for (int b = 0; b < bytes.length; b += 20) {
-                int[] n = new int[5];
-                for (int j = 0; j < 20; j++) {
-                    n[j / 4] = n[j / 4] << 8 | bytes[b + j] & 255;
-                }
-                Check.due(at + "feed", x.feed(n[0], n[1], n[2], n[3], n[4]), plain.feed(n));
-            }
-            Check.due(at + "end", x.end(text.length()), plain.end(text.length()));
-            Check.due(at + "valley of " + text, x.valley(), plain.valley());
-            Check.due(at + "fault(0) of " + text, x.fault(0), plain.fault(0));
-            Check.due(at + "fault(1) of " + text, x.fault(1), plain.fault(1));
+            tell(at, text);
         }
         bells = plain.about(1) + plain.about(2);
         ears = plain.about(3);
+    }
+
+    private void tell(String at, String text) {
+        Check.due(at + "end(0)", x.end(0), plain.end(0));
+        byte[] bytes = new byte[(text.length() + 19) / 20 * 20];
+        for (int b = 0; b < text.length(); b++) {
+            bytes[b] = (byte) text.charAt(b);
+        }
+        for (int b = 0; b < bytes.length; b += 20) {
+            int[] n = new int[5];
+            for (int j = 0; j < 20; j++) {
+                n[j / 4] = n[j / 4] << 8 | bytes[b + j] & 255;
+            }
+            Check.due(at + "feed", x.feed(n[0], n[1], n[2], n[3], n[4]), plain.feed(n));
+        }
+        Check.due(at + "end", x.end(text.length()), plain.end(text.length()));
+        Check.due(at + "valley of " + text, x.valley(), plain.valley());
+        Check.due(at + "fault(0) of " + text, x.fault(0), plain.fault(0));
+        Check.due(at + "fault(1) of " + text, x.fault(1), plain.fault(1));
     }
 
     // ---- any call
