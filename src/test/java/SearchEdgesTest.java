@@ -16,6 +16,7 @@ public final class SearchEdgesTest {
         notesBelowZeroAndAbove999();
         placesAtTheEnds();
         onePlaceForAllEars();
+        setsFoundAtLaterPlaces();
         sureAndQuiet();
         setsOfNothing();
         partedByThisAloneAndThatAlone();
@@ -238,6 +239,27 @@ public final class SearchEdgesTest {
         x.sound(1, 1, 0, 5, 5);
         Check.due("at 55 both are 5", x.sets(1, 0, 4, 0), 55);
         Check.due("there alone", x.sets(1, 0, 3, 0), 1);
+    }
+
+    /** Many sets are so at the first PLACES already, some of those like them only farther on. */
+    private static void setsFoundAtLaterPlaces() {
+        String near = "herd h;beast a of h bell 0 loud 10;ear e at 5;";
+        String quiet = "herd h;beast a of h bell 0 loud 99;beast b of h bell 0 loud 99;ear e at 0;";
+        for (char name = 'p'; name <= 't'; name++) {
+            near += "beast " + name + " of h bell 0 loud 50;";
+            quiet += "beast " + name + " of h bell 0 loud 1;";
+        }
+        ChordHerds x = Check.told(near, 6);
+        x.sound(0, 0, 0, 10, 999);
+        Check.due("a alone is 10 at 5, none never", x.sets(0, 0, 0, 0), 63);
+        Check.due("all farther than that", x.sets(0, 1, 0, 0), 62);
+        ChordHerds y = Check.told(quiet, 7);
+        y.sound(0, 0, 0, 0, 50);
+        Check.due("a and b together from 74 on", y.sets(0, 0, 0, 0), 128);
+        Check.due("some set is so anywhere", y.sets(0, 0, 3, 0), 100);
+        y.sound(0, 0, 0, 49, 50);
+        Check.due("a or b at 49, with or without the others; both at 74", y.sets(0, 0, 0, 0), 96);
+        Check.due("at 49, 50 and 74", y.sets(0, 0, 3, 0), 3);
     }
 
     private static void sureAndQuiet() {
