@@ -1,7 +1,13 @@
 import java.io.IOException;
+import java.lang.reflect.Method;
 import java.nio.file.Files;
 import java.nio.file.Path;
+import java.util.ArrayList;
 import java.util.List;
+import java.util.Map;
+import java.util.Set;
+import java.util.TreeMap;
+import java.util.TreeSet;
 import java.util.regex.Matcher;
 import java.util.regex.Pattern;
 
@@ -9,15 +15,16 @@ import java.util.regex.Pattern;
 public final class SourceTest {
     private static final Path SOURCE = Path.of("src/main/java/ChordHerds.java");
     private static final int METHOD_LINES = 60;
-    private static final int PARAMETERS = 7;
+    private static final int DEEP = 8;
+    private static final Pattern METHOD =
+        Pattern.compile("(?m)^( {4}| {8})(?! )[\\w\\[\\] ]+ (\\w+)\\([^()]*\\) \\{\n(?s:(.*?))^\\1\\}");
 
     public static void main(String[] args) throws IOException {
         String code = Files.readString(SOURCE).replaceAll("(?s)/\\*.*?\\*/", "").replaceAll("//[^\n]*", "");
         noForbiddenWords(code);
         noObjectsButInFieldsAndConstructors(code);
         methodsAreShort(Files.readAllLines(SOURCE));
-        fewParameters(code);
-        Check.due("classes of some twelve", count(code, "\\bclass\\b") <= 12, true);
+        callsGoEightDeep(code);
         Check.finish("SourceTest");
     }
 
@@ -64,10 +71,48 @@ public final class SourceTest {
         }
     }
 
-    private static void fewParameters(String code) {
-        Matcher m = Pattern.compile("(?m)^ {4,8}[\\w\\[\\] ]+ (\\w+)\\(([^()]*)\\) \\{").matcher(code);
+    /**
+     * A call goes to all methods of its name here, so some chains are longer than any that can come; a method
+     * that calls itself is recursion, and no others call one another.
+     */
+    private static void callsGoEightDeep(String code) {
+        Map<String, Set<String>> calls = new TreeMap<>();
+        Matcher m = METHOD.matcher(code);
         while (m.find()) {
-            Check.due("parameters of " + m.group(1), m.group(2).split(",").length <= PARAMETERS, true);
+            Set<String> called = calls.computeIfAbsent(m.group(2), name -> new TreeSet<>());
+            Matcher call = Pattern.compile("(\\w+)\\(").matcher(m.group(3));
+            while (call.find()) {
+                called.add(call.group(1));
+            }
+            called.remove(m.group(2));
         }
+        Check.due("methods found " + calls.keySet(), calls.keySet().equals(namesOfMethods()), true);
+        for (String name : calls.keySet()) {
+            int deep = deep(name, calls, 0);
+            Check.due("calls from " + name + ", " + deep + " deep", deep <= DEEP, true);
+        }
+    }
+
+    private static Set<String> namesOfMethods() {
+        List<Class<?>> classes = new ArrayList<>(List.of(ChordHerds.class.getDeclaredClasses()));
+        classes.add(ChordHerds.class);
+        // the constructor reads like a method
+        Set<String> names = new TreeSet<>(Set.of("ChordHerds"));
+        for (Class<?> each : classes) {
+            for (Method method : each.getDeclaredMethods()) {
+                names.add(method.getName());
+            }
+        }
+        return names;
+    }
+
+    private static int deep(String name, Map<String, Set<String>> calls, int open) {
+        int most = 0;
+        for (String called : calls.get(name)) {
+            if (calls.containsKey(called) && open <= DEEP) {
+                most = Math.max(most, deep(called, calls, open + 1));
+            }
+        }
+        return most + 1;
     }
 }
